@@ -1279,7 +1279,7 @@ public final class ModelTests {
         int q = d.about(0, 16);
         int days = d.about(1, d.one(4) ? 96 : 9);
         int seed = d.r.nextInt();
-        switch (d.to(40)) {
+        switch (d.to(44)) {
             case 0: {
                 int n = put(log, x, m, d.spoilt(d.land()));
                 if (d.one(3)) {

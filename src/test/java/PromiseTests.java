@@ -135,6 +135,12 @@ public final class PromiseTests {
         due("2 empty then", 20, () -> x.feed(0x6a756720, 0x373b0000, 0, 0, 0));
         due("2 jug 7;", 0, () -> x.land(6));
         due("2 jug 7;", 7, () -> x.told(4));
+        put(x, "jug 123;");
+        due("2 only the first n count", -9, () -> x.land(6));
+        due("2 only the first n count", 6, x::fault);
+        put(x, "person 1 1;");
+        due("2 only the first n count", -9, () -> x.land(5));
+        due("2 only the first n count", 0, x::fault);
         due("2 high bytes", 20, () -> x.feed(-1, -1, -1, -1, -1));
         due("2 high bytes are no land", -9, () -> x.land(1));
     }
@@ -251,6 +257,8 @@ public final class PromiseTests {
         badLaw("(((((((1)))))))", -7, 6);
         badLaw("((((((least", -7, 6);
         badLaw("least[least[least[least[least[least[most[", -7, 36);
+        badLaw("least[1,((((((1", -7, 13);
+        badLaw("least[((((((1", -7, 11);
         badLaw("((((((1(", -9, 7);
         badLaw("(((((( joke", -9, 7);
     }
@@ -309,6 +317,8 @@ public final class PromiseTests {
         badWork("pour 100;", -8, 5);
         badWork("again 61 [];", -8, 6);
         badWork("days;", -9, 0);
+        badWork("dayz;", -9, 0);
+        badWork("aday;", -9, 0);
         badWork("day", -9, 3);
         badWork("day;;", -9, 4);
         badWork("day;]", -9, 4);
@@ -500,7 +510,14 @@ public final class PromiseTests {
         due("16 person", IAE, () -> x.would(1, 0, 0, 0, 0, 0, 0, 0, 0, 7));
         due("16 below", IAE, () -> x.would(1, -1, 0, 0, 0, 0, 0, 0, 0, 0));
         due("16 below", IAE, () -> x.would(1, 0, 0, 0, 0, 0, 0, 0, 0, -1));
-        due("16 counted", 13, () -> x.status(1));
+        due("16 below", IAE, () -> x.would(1, 0, -1, 0, 0, 0, 0, 0, 0, 0));
+        due("16 below", IAE, () -> x.would(1, 0, 0, -1, 0, 0, 0, 0, 0, 0));
+        due("16 below", IAE, () -> x.would(1, 0, 0, 0, -1, 0, 0, 0, 0, 0));
+        due("16 below", IAE, () -> x.would(1, 0, 0, 0, 0, -1, 0, 0, 0, 0));
+        due("16 below", IAE, () -> x.would(1, 0, 0, 0, 0, 0, -1, 0, 0, 0));
+        due("16 below", IAE, () -> x.would(1, 0, 0, 0, 0, 0, 0, -1, 0, 0));
+        due("16 below", IAE, () -> x.would(1, 0, 0, 0, 0, 0, 0, 0, -1, 0));
+        due("16 counted", 20, () -> x.status(1));
         String[] names = {"strong", "apart", "worn", "told", "dimples", "grief", "near", "thirst", "day", "person"};
         long[] due = {11, 9, 12, 13, 3, 8, 6, 17, 18, 5};
         for (int i = 0; i < names.length; i++) {
@@ -923,6 +940,19 @@ public final class PromiseTests {
         work(x, "pour 99;pour 99;");
         due("39 none", -1, x::restore);
         due("39 none does nothing", 2, () -> x.told(10));
+        DimpleWells y = in(THREE, "pour 1;");
+        work(y, "pour 2;");
+        y.image();
+        y.undo();
+        y.undo();
+        work(y, "pour 9;");
+        work(y, "day;");
+        work(y, "day;");
+        due("39 with its works", 0, y::restore);
+        due("39 with its works", 1, y::undo);
+        due("39 as they were", 8, () -> y.told(4));
+        due("39 with its works", 0, y::undo);
+        due("39 as they were", 9, () -> y.told(4));
     }
 
     private static void promise40() {
