@@ -557,6 +557,14 @@ public final class EdgeTests {
         faultInLand("jUg 1;", 1, 0);
         faultInLand("jug one;", 1, 4);
         faultInLand("jug 1x;", 1, 5);
+        for (char c : new char[] {'/', ':', '`', '{', '@', 'A', 'Z', '[', '_', '.'}) {
+            faultInLand("jug" + c + " 1;", 1, 3);
+            faultInLand("jug 1" + c + ";", 1, 5);
+            faultInLand("jug " + c + "1;", 1, 4);
+        }
+        faultInLand("jugz 1;", 1, 0);
+        faultInLand("ajug 1;", 1, 0);
+        faultInLand("jug 1z;", 1, 5);
         faultInLaw("strongapart", 1, 0);
         faultInLaw("2strong", 1, 1);
         faultInLaw("1 000", 1, 2);
@@ -621,6 +629,8 @@ public final class EdgeTests {
         faultInLaw("((((((least[1,2]))))))", 3, 6);
         faultInLaw("(((((( most[1,2]))))))", 3, 7);
         faultInLaw("least[1,(((((((", 3, 13);
+        faultInLaw("least[(((((((", 3, 11);
+        faultInLaw("most[most[most[most[most[most[most[", 3, 30);
         faultInLaw("((((((5))))))+(((((((5)))))))", 3, 20);
         faultInLaw("((((((1000(", 2, 6);
         due("six again", 1, () -> work(in(""), "again 1[".repeat(6) + "day;" + "];".repeat(6)));
@@ -907,6 +917,53 @@ public final class EdgeTests {
         due("the jug alone", 0, () -> rich.enough(999));
     }
 
+    private static void theFullLand() {
+        sentence("PERSONS, 7 at most; JOKES likewise, 6: the last ones are as the others");
+        DimpleWells x = under("person + strong", SEVEN + "joke 0 1;joke 0 2;joke 0 3;joke 0 4;joke 0 5;joke 0 6;drink 0;");
+        due("no lines", 100, () -> x.fits(6, 0));
+        due("a look", 0, () -> x.look(6, 0));
+        due("a look", 100, () -> x.look(6, 1));
+        due("enough", 64, () -> x.enough(20 + 36));
+        due("two of them", 4 + 16, () -> x.enough(20 + 54));
+        due("liked", 5, () -> x.likes(6, 0));
+        due("how much", 12, () -> x.likes(6, 1));
+        due("told", 3, () -> work(x, "tell 5 6;tell 0 0;tell 4 1;"));
+        due("was told one this day", 111, () -> 100 * x.person(6, 4) + 10 * x.person(0, 4) + x.person(1, 4));
+        due("was not", 0, () -> x.person(5, 4));
+        due("how often", 111, () -> 100 * x.person(6, 5) + 10 * x.person(0, 5) + x.person(1, 5));
+        due("how much", 12, () -> x.person(6, 6));
+        due("worn", 1, () -> x.worn(5, 6));
+        due("not worn", 0, () -> x.worn(5, 5) + x.worn(4, 6) + x.worn(0, 6));
+        due("how often it was told", 1, () -> x.joke(5, 2));
+        due("who was told", 64 + 2 + 1, () -> x.told(8));
+        due("nobody is thirsty", 0, () -> x.told(7) + x.told(11));
+        due("none is thirstiest", -1, () -> x.driest(0));
+        due("none is thirstiest", -1, () -> x.driest(1));
+        due("nobody grieves", 0, () -> x.told(6));
+        due("grieves", 64, () -> work(x, "grieve 6 9;") * x.told(6));
+        due("grief", 9, () -> x.person(6, 2));
+        due("who laughs", 0, () -> x.solemn(5));
+
+        sentence("of a LAND behind others nothing is left");
+        DimpleWells y = in("person 3 0;person 3 0;person 3 0;joke 0 20;joke 0 20;joke 0 20;");
+        due("three", 180, y::best);
+        due("three", 7, () -> y.enough(200));
+        land(y, "person 3 0;joke 0 20;joke 0 20;");
+        due("one and two", 60, y::best);
+        due("one and two", -1, () -> y.given(1));
+        land(y, "person 1 0;person 1 0;joke 0 2;");
+        due("two and one", 2, y::best);
+        due("two and one", 3, () -> y.enough(24));
+        due("two and one", -1, () -> y.enough(25));
+        due("it likes", 2, () -> y.likes(0, 1));
+        work(y, "tell 0 0;tell 0 1;");
+        due("all were told", 0, y::best);
+        due("all were told", -1, () -> y.given(0));
+        land(y, "person 1 0;");
+        due("no jokes", 0, y::best);
+        due("no jokes", -1, () -> y.enough(21));
+    }
+
     private static void theLasting() {
         String land = "person 3 0;person 0 0;joke 0 1;";
         sentence("until the LAUGH is 0 the first time; 99 at most; WELL: LAUGHS of these by D together");
@@ -1164,6 +1221,8 @@ public final class EdgeTests {
         DimpleWells drier = in(SEVEN + "jug 9;", "day;");
         due("the first", 5, () -> drier.driest(0));
         due("its thirst", 2, () -> drier.driest(1));
+        due("all alike", 0, () -> in(SEVEN + "jug 0;", "day;").driest(0));
+        due("all alike", 2, () -> in(SEVEN + "jug 0;", "day;").driest(1));
 
         sentence("Pairs of PERSONS of the same TASTE: 0 how many (each once), 1 the first (NONE)");
         due("no persons", 0, () -> in("").alike(0));
@@ -1416,6 +1475,14 @@ public final class EdgeTests {
         due("a fault in a work", -9, () -> work(z, "day;grieve 0 9;day"));
         due("a fault in a book", -8, () -> book(z, "0 1;2 1;0 2;"));
         same("all stays", picture(busy()), picture(z));
+
+        DimpleWells w = in("jug 1;");
+        due("a fault at the end", -9, () -> land(w, "person 1 1;person 1 1;person 1 1;joke 1 1;street 0 1;street 0 2;jug 5;drink 9;x"));
+        due("what was ahead of a fault is not kept", 2, () -> land(w, "person 1 1;person 1 1;street 1 0;"));
+        same("as a new one", picture(in("person 1 1;person 1 1;street 1 0;")), picture(w));
+        DimpleWells v = busy();
+        due("a fault at the end of a book", -9, () -> book(v, "0 1;2 5;x"));
+        due("what was ahead of it is not kept", 2, () -> book(v, "2 5;0 1;"));
 
         sentence("Promise 7: The place of the FAULT of the latest text; NONE without");
         DimpleWells t = busy();
@@ -1719,6 +1786,22 @@ public final class EdgeTests {
         z.restore();
         same("as it was, but for refused ones", all.replaceFirst("^((?:\\S+ ){10})1 ", "$10 "), picture(z));
 
+        DimpleWells u = in(THREE, "pour 1;", "pour 2;", "pour 3;");
+        u.image();
+        due("undone", 0, () -> u.undo() + u.undo() + u.undo() - 3);
+        for (int i = 0; i < 5; i++) {
+            work(u, "day;grieve 0 " + (9 - i) + ";");
+        }
+        due("brought back", 0, u::restore);
+        due("the jug", 3, () -> u.told(4));
+        due("the third is undone", 2, u::undo);
+        due("the jug", 6, () -> u.told(4));
+        due("the second is undone", 1, u::undo);
+        due("the jug", 8, () -> u.told(4));
+        due("the first is undone", 0, u::undo);
+        due("the jug", 9, () -> u.told(4));
+        due("nothing of the others", 0, () -> u.told(3) + u.told(6));
+
         sentence("Promise 39: LAW, BOOK, TAPE and FAULT are none of that");
         DimpleWells t = busy();
         law(t, "7");
@@ -1799,6 +1882,7 @@ public final class EdgeTests {
         theDays();
         theBest();
         theEnough();
+        theFullLand();
         theLasting();
         theGuesses();
         theStreetsAsked();
