@@ -1015,17 +1015,17 @@ public final class DimpleWells {
         }
 
         private int grieving() {
-            int bits = 0;
-            for (int person = 0; person < MOST_PERSONS; person++) {
-                bits |= cells[GRIEF + person] > 0 ? 1 << person : 0;
-            }
-            return bits;
+            return personsWith(GRIEF);
         }
 
         private int thirsty() {
+            return personsWith(THIRST);
+        }
+
+        private int personsWith(int cell) {
             int bits = 0;
             for (int person = 0; person < MOST_PERSONS; person++) {
-                bits |= cells[THIRST + person] > 0 ? 1 << person : 0;
+                bits |= cells[cell + person] > 0 ? 1 << person : 0;
             }
             return bits;
         }
